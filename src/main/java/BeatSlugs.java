@@ -1,6 +1,6 @@
 /**
  * Storyboard slugs timed by beats so that an act ends on its turn.
- * DOC.md tells what each public method promises; the numbers of its promises stand in README.md.
+ * DOC.md tells what each public method promises, and in which order a method's errors are checked.
  */
 public final class BeatSlugs {
     public static final int NO_SUCH = -1, BAD_VALUE = -2, BAD_TEXT = -3, TOO_MANY = -4, NOT_POSSIBLE = -5, NONE = -6;
@@ -215,7 +215,11 @@ public final class BeatSlugs {
             return BAD_TEXT;
         }
         history.prepare(board);
-        int done = carryOrders();
+        pad.rewind();
+        int done = 0;
+        while (done < MOST_SIGNS && pad.readOrder() && carryOrder() >= 0) {
+            done++;
+        }
         pad.clear();
         return history.settle(done);
     }
@@ -245,19 +249,6 @@ public final class BeatSlugs {
         history.prepare(board);
         board.takeOver(saved);
         return history.settle(board.size());
-    }
-
-    private int carryOrders() {
-        pad.rewind();
-        for (int done = 0; done < MOST_SIGNS; done++) {
-            if (!pad.readOrder() || carryOrder() < 0) {
-                return done;
-            }
-            if (pad.isLast()) {
-                return done + 1;
-            }
-        }
-        return MOST_SIGNS;
     }
 
     private int carryOrder() {
@@ -298,7 +289,7 @@ public final class BeatSlugs {
     }
 
     private static boolean contains(int set, int number) {
-        return (set & bit(number)) != 0;
+        return number >= 0 && number < MOST_SLUGS && (set >> number & 1) != 0;
     }
 
     /** All that is undone, saved and restored: the settings, the targets and the slugs in their row. */
@@ -489,7 +480,7 @@ public final class BeatSlugs {
             int from = startOf(act);
             int left = cut;
             for (int place = startOf(act + 1) - 1; place >= from && left > 0; place--) {
-                int slug = slugIn(place);
+                int slug = cell(row, place);
                 int by = Math.min(left, roomOf(slug));
                 store(beats, slug, beatsOf(slug) - by);
                 left -= by;
@@ -501,7 +492,6 @@ public final class BeatSlugs {
         private int makeSlug(int place, int length) {
             int slug = lowestFree();
             slugs |= bit(slug);
-            turns &= ~bit(slug);
             store(written, slug, length);
             store(beats, slug, length);
             store(needs, slug, 0);
@@ -511,7 +501,7 @@ public final class BeatSlugs {
 
         private int lowestFree() {
             for (int slug = 0; slug < MOST_SLUGS; slug++) {
-                if (!has(slug)) {
+                if (!contains(slugs, slug)) {
                     return slug;
                 }
             }
@@ -568,6 +558,10 @@ public final class BeatSlugs {
             return slugs;
         }
 
+        int allTurns() {
+            return turns;
+        }
+
         boolean has(int slug) {
             return contains(slugs, slug);
         }
@@ -578,7 +572,7 @@ public final class BeatSlugs {
 
         int placeOf(int slug) {
             for (int place = 0; place < size; place++) {
-                if (slugIn(place) == slug) {
+                if (cell(row, place) == slug) {
                     return place;
                 }
             }
@@ -599,16 +593,16 @@ public final class BeatSlugs {
 
         /** By how many beats a slug can be trimmed; a lower TRIM can leave it below its least ones. */
         int roomOf(int slug) {
-            int length = writtenOf(slug);
-            int least = Math.max(1, length - length * settingOf(TRIM) / 100);
-            return Math.max(0, beatsOf(slug) - least);
+            int length = cell(written, slug);
+            int least = Math.max(1, length - length * cell(settings, TRIM) / 100);
+            return Math.max(0, cell(beats, slug) - least);
         }
 
         int longestSlug() {
             int longest = NONE;
             int most = 0;
             for (int place = 0; place < size; place++) {
-                int slug = slugIn(place);
+                int slug = cell(row, place);
                 if (beatsOf(slug) > most) {
                     longest = slug;
                     most = beatsOf(slug);
@@ -626,7 +620,7 @@ public final class BeatSlugs {
         int needersOf(int slug) {
             int set = 0;
             for (int place = 0; place < size; place++) {
-                int other = slugIn(place);
+                int other = cell(row, place);
                 if (contains(needsOf(other), slug)) {
                     set |= bit(other);
                 }
@@ -638,7 +632,7 @@ public final class BeatSlugs {
         int allNeedsOf(int slug) {
             int set = needsOf(slug);
             for (int place = size - 1; place >= 0; place--) {
-                int other = slugIn(place);
+                int other = cell(row, place);
                 if (contains(set, other)) {
                     set |= needsOf(other);
                 }
@@ -650,7 +644,7 @@ public final class BeatSlugs {
         int lowestPlace(int slug) {
             int set = needsOf(slug);
             for (int place = size - 1; place >= 0; place--) {
-                if (contains(set, slugIn(place))) {
+                if (contains(set, cell(row, place))) {
                     return place + 1;
                 }
             }
@@ -660,14 +654,14 @@ public final class BeatSlugs {
         /** The place ahead of the first slug that needs a slug. */
         int highestPlace(int slug) {
             for (int place = 0; place < size; place++) {
-                if (contains(needsOf(slugIn(place)), slug)) {
+                if (contains(cell(needs, cell(row, place)), slug)) {
                     return place - 1;
                 }
             }
             return size - 1;
         }
 
-        /** It is the same for a move and for a swap: what it needs or needs it never passes it. */
+        /** The same for a move and for a swap: neither takes a slug past one that it needs, or that needs it. */
         private boolean mayStandIn(int slug, int place) {
             return place >= lowestPlace(slug) && place <= highestPlace(slug);
         }
@@ -677,7 +671,7 @@ public final class BeatSlugs {
         int beatsIn(int from, int to) {
             int sum = 0;
             for (int place = from; place < to; place++) {
-                sum += beatsOf(slugIn(place));
+                sum += cell(beats, cell(row, place));
             }
             return sum;
         }
@@ -689,7 +683,7 @@ public final class BeatSlugs {
         int roomIn(int from, int to) {
             int sum = 0;
             for (int place = from; place < to; place++) {
-                sum += roomOf(slugIn(place));
+                sum += roomOf(cell(row, place));
             }
             return sum;
         }
@@ -697,7 +691,7 @@ public final class BeatSlugs {
         int slugAtBeat(int beat) {
             int end = 0;
             for (int place = 0; place < size; place++) {
-                int slug = slugIn(place);
+                int slug = cell(row, place);
                 end += beatsOf(slug);
                 if (beat < end) {
                     return slug;
@@ -709,7 +703,7 @@ public final class BeatSlugs {
         int turnsAhead(int place) {
             int sum = 0;
             for (int ahead = 0; ahead < place; ahead++) {
-                if (isTurn(slugIn(ahead))) {
+                if (contains(turns, cell(row, ahead))) {
                     sum++;
                 }
             }
@@ -717,7 +711,7 @@ public final class BeatSlugs {
         }
 
         int actCount() {
-            boolean open = size > 0 && !isTurn(slugIn(size - 1));
+            boolean open = size > 0 && !contains(turns, cell(row, size - 1));
             return Integer.bitCount(turns) + (open ? 1 : 0);
         }
 
@@ -729,7 +723,7 @@ public final class BeatSlugs {
         int startOf(int act) {
             int place = 0;
             for (int left = act; place < size && left > 0; place++) {
-                if (isTurn(slugIn(place))) {
+                if (contains(turns, cell(row, place))) {
                     left--;
                 }
             }
@@ -780,18 +774,15 @@ public final class BeatSlugs {
             return offOfRow(row, turns ^ bit(slug));
         }
 
-        int offIfOrdered(int[] order) {
-            return offOfRow(order, turns);
-        }
-
-        private int offOfRow(int[] order, int turnSet) {
+        /** How far all acts are off, without signs, together, in another order or with other turns. */
+        int offOfRow(int[] order, int turnSet) {
             int together = 0;
             int act = 0;
             int sum = 0;
             boolean open = false;
             for (int place = 0; place < size; place++) {
                 int slug = cell(order, place);
-                sum += beatsOf(slug);
+                sum += cell(beats, slug);
                 open = !contains(turnSet, slug);
                 if (!open) {
                     together += Math.abs(sum - targetOf(act));
@@ -898,7 +889,7 @@ public final class BeatSlugs {
 
         private void tryOne(Board board, int place, int behind) {
             exchange(place, behind);
-            int off = board.offIfOrdered(trial);
+            int off = board.offOfRow(trial, board.allTurns());
             exchange(place, behind);
             if (off < least) {
                 least = off;
@@ -995,10 +986,6 @@ public final class BeatSlugs {
             cursor = 0;
         }
 
-        boolean isLast() {
-            return last;
-        }
-
         char kind() {
             return kind;
         }
@@ -1007,7 +994,7 @@ public final class BeatSlugs {
             return first;
         }
 
-        /** The second number; of "s" 1 if there is a "!", otherwise 0. */
+        /** The second number, if there is one; of "s" 1 if there is a "!", otherwise 0. */
         int secondNumber() {
             return second;
         }
@@ -1015,25 +1002,18 @@ public final class BeatSlugs {
         /** Reads an order and the ";" behind it, if it is not the last one; else the cursor stays at the fault. */
         boolean readOrder() {
             kind = signAt(cursor);
-            first = 0;
-            second = 0;
-            if (!readParts()) {
-                return false;
-            }
-            last = cursor >= length;
-            return last || skip(';');
-        }
-
-        private boolean readParts() {
+            boolean read = false;
             switch (kind) {
-                case 's': return readSlug();
-                case 'n': return readPair('>');
-                case 'm': return readPair('@');
-                case 'x': return readPair('~');
-                case 't': return readPair('-');
-                case 'f': return readAct();
-                default: return false;
+                case 's': read = readSlug(); break;
+                case 'n': read = readPair('>'); break;
+                case 'm': read = readPair('@'); break;
+                case 'x': read = readPair('~'); break;
+                case 't': read = readPair('-'); break;
+                case 'f': read = readAct(); break;
+                default: break;
             }
+            last = read && cursor >= length;
+            return last || (read && skip(';'));
         }
 
         private boolean readSlug() {

@@ -73,7 +73,9 @@ public final class PromiseTests {
             due("2 counted", board.count(7 + setting), most);
         }
         due("2 no setting", board.set(3, 10), BAD_VALUE);
+        due("2 no setting", board.set(3, 0), BAD_VALUE);
         due("2 no setting", board.set(-1, 10), BAD_VALUE);
+        due("2 no setting", board.set(-1, 0), BAD_VALUE);
         due("2 recorded", board.count(11), 6);
         BeatSlugs trimmed = boardOf(20);
         trimmed.trim(0, 10);
@@ -156,10 +158,13 @@ public final class PromiseTests {
         due("5 is a new one", board.of(2, 4), 0);
         due("5 is plain", board.of(2, 3), 0);
         due("5 nothing needs it", board.of(2, 5), 0);
+        board.need(0, 3);
+        due("5 needs it", board.of(0, 4), 8);
+        due("5 left", board.drop(3), 3);
+        due("5 needs nothing any more", board.of(0, 4), 0);
         board.drop(0);
         board.drop(1);
-        board.drop(2);
-        due("5 the last one", board.drop(3), 0);
+        due("5 the last one", board.drop(2), 0);
     }
 
     private static void turn() {
@@ -175,6 +180,8 @@ public final class PromiseTests {
         due("6 a turn", board.turn(1), 1);
         due("6 none open", board.ofAct(0, 4), 0);
         due("6 a turn", board.of(1, 3), 1);
+        due("6 one slug, an open act", boardOf(1).count(1), 1);
+        due("6 one turn, one act", boardOf(-1).count(1), 1);
     }
 
     private static void need() {
@@ -210,6 +217,7 @@ public final class PromiseTests {
         due("8 half", board.trim(2, 5), 5);
         due("8 rounded down", board.trim(3, 2), NOT_POSSIBLE);
         due("8 rounded down", board.trim(3, 1), 2);
+        due("8 down to one", boardOf(2).trim(0, 1), 1);
         due("8 as written", board.of(0, 1), 99);
         due("8 all beats", board.count(2), 50 + 1 + 5 + 2);
         board.set(BeatSlugs.TRIM, 90);
@@ -312,6 +320,11 @@ public final class PromiseTests {
         board.drop(0);
         due("12 room again", board.split(3, 1), 0);
         due("12 behind", board.of(0, 0), 23);
+        BeatSlugs turned = boardOf(5, 10);
+        turned.move(0, 1);
+        turned.need(0, 1);
+        due("12 the slug 0 needs it", turned.split(1, 4), 2);
+        due("12 the slug 0 needs both", turned.of(0, 4), 2 + 4);
     }
 
     private static void fit() {
@@ -354,6 +367,7 @@ public final class PromiseTests {
             due("14 of 3, " + what, board.of(3, what), third[what]);
             due("14 of 4, " + what, board.of(4, what), last[what]);
         }
+        due("14 a turn in place 0", boardOf(-5, 6).of(1, 8), 1);
         due("14 first begins", board.of(0, 6), 0);
         due("14 a turn is in its act", board.of(1, 8), 0);
         due("14 last beat of a page", board.of(1, 7), 0);
@@ -437,6 +451,7 @@ public final class PromiseTests {
         board.put(packed("s1"));
         due("18 pad", board.count(10), 2);
         due("18 undo", board.count(11), 6);
+        due("18 the longest of one beat", boardOf(1, 1).count(6), 0);
         BeatSlugs page = boardOf(16);
         due("18 one page", page.count(3), 1);
         page.slug(1, 1, 0);
@@ -637,6 +652,14 @@ public final class PromiseTests {
         due("27 undo all", board.count(0), 0);
         write(board, "s1;".repeat(26) + "f0");
         due("27 too many", board.carryOut(), 24);
+        write(board, "t23-1");
+        due("27 an error only", board.carryOut(), 0);
+        due("27 a slug that comes", board.drop(23), 23);
+        write(board, "s37!;t23-12;m23@11");
+        due("27 two digits", board.carryOut(), 3);
+        due("27 two digits", board.of(23, 1), 37);
+        due("27 two digits", board.of(23, 2), 25);
+        due("27 two digits", board.of(23, 0), 11);
     }
 
     private static void undo() {
@@ -685,6 +708,83 @@ public final class PromiseTests {
         due("28 also if nothing is different", all.count(11), 1);
         due("28 an error between", all.turn(9), NO_SUCH);
         due("28 an error between", all.undo(), 0);
+    }
+
+    /** Everything that can be seen of a board, but for the pad and the history. */
+    private static int[] view(BeatSlugs board) {
+        int[] view = new int[24 * 12 + 10 + 24 * 2];
+        int seen = 0;
+        for (int slug = 0; slug < 24; slug++) {
+            for (int what = 0; what < 10; what++) {
+                view[seen++] = board.of(slug, what);
+            }
+            view[seen++] = board.at(slug);
+            view[seen++] = board.needs(slug);
+        }
+        for (int what = 0; what < 10; what++) {
+            view[seen++] = board.count(what);
+        }
+        for (int act = 0; act < 24; act++) {
+            view[seen++] = board.ofAct(act, 1);
+            view[seen++] = board.ofAct(act, 2);
+        }
+        return view;
+    }
+
+    private static int change(BeatSlugs board, int kind) {
+        switch (kind) {
+            case 0: return board.set(BeatSlugs.PAGE, 5);
+            case 1: return board.target(0, 5);
+            case 2: return board.slug(0, 5, 1);
+            case 3: return board.drop(0);
+            case 4: return board.turn(0);
+            case 5: return board.need(1, 0);
+            case 6: return board.trim(0, 1);
+            case 7: return board.restoreTail(2);
+            case 8: return board.move(0, 1);
+            case 9: return board.swap(0, 1);
+            case 10: return board.split(0, 1);
+            case 11: return board.fit(0);
+            case 12: return board.restore(0);
+            default: write(board, "x0~1"); return board.carryOut();
+        }
+    }
+
+    /** Each change on a board of its own, behind eight others, so that no older state serves instead. */
+    private static void eachChangeIsUndone() {
+        for (int kind = 0; kind < 14; kind++) {
+            BeatSlugs board = boardOf(20, 30, 20);
+            board.save(0);
+            for (int more = 0; more < 7; more++) {
+                board.slug(3 + more, 1 + more, 0);
+            }
+            board.trim(2, 7);
+            int[] before = view(board);
+            due("28 change " + kind, Math.min(0, change(board, kind)), 0);
+            due("28 something is different by " + kind, java.util.Arrays.equals(view(board), before) ? 0 : 1, 1);
+            due("28 undo of " + kind, board.undo(), 5);
+            due("28 nothing is different then " + kind, java.util.Arrays.equals(view(board), before) ? 1 : 0, 1);
+        }
+    }
+
+    /** Errors of every kind, none of which may leave a trace. */
+    private static void errorsChangeNothing() {
+        BeatSlugs board = boardOf(99, -60, 5);
+        board.need(1, 0);
+        board.need(2, 1);
+        int[] before = view(board);
+        int[] answers = {
+            board.set(0, 61), board.set(3, 5), board.target(6, 5), board.target(0, 0), board.slug(4, 5, 0),
+            board.slug(0, 100, 0), board.slug(0, 5, 2), board.drop(3), board.turn(3), board.need(0, 1), board.need(0, 0),
+            board.trim(0, 50), board.trim(0, 0), board.restoreTail(3), board.move(0, 1), board.move(2, 0),
+            board.swap(0, 2), board.swap(1, 1), board.split(2, 5), board.split(0, 0), board.fit(0), board.fit(2),
+            board.restore(0), board.restore(2), board.save(2), board.carryOut(), board.put(0L)};
+        for (int error = 0; error < answers.length; error++) {
+            due("an error, number " + error, answers[error] < 0 && answers[error] != NONE ? 1 : 0, 1);
+        }
+        due("nothing changed", java.util.Arrays.equals(view(board), before) ? 1 : 0, 1);
+        due("nothing recorded", board.count(11), 5);
+        due("nothing written", board.count(10), 0);
     }
 
     private static void save() {
@@ -771,6 +871,8 @@ public final class PromiseTests {
         fault();
         carryOut();
         undo();
+        eachChangeIsUndone();
+        errorsChangeNothing();
         save();
         restore();
         System.out.println(wrong == 0 ? "promises: all answers are as due" : "promises: " + wrong + " answers are not as due");
