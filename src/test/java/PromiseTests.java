@@ -1,48 +1,5 @@
 /** At least one test for each promise: ordinary inputs, the edges that the document names, wrong inputs. */
-public final class PromiseTests {
-    private static final int NO_SUCH = -1, BAD_VALUE = -2, BAD_TEXT = -3, TOO_MANY = -4, NOT_POSSIBLE = -5, NONE = -6;
-    private static final int FAR = Integer.MAX_VALUE, BELOW = Integer.MIN_VALUE;
-    private static int wrong = 0;
-
-    private static void due(String what, long got, long want) {
-        if (got != want) {
-            wrong++;
-            System.out.println(what + " answered " + got + ", due is " + want);
-        }
-    }
-
-    /** A board of plain slugs, or turns where the beats are below 0. */
-    private static BeatSlugs boardOf(int... beats) {
-        BeatSlugs board = new BeatSlugs();
-        for (int place = 0; place < beats.length; place++) {
-            due("slug at " + place, board.slug(place, Math.abs(beats[place]), beats[place] < 0 ? 1 : 0), place);
-        }
-        return board;
-    }
-
-    private static long packed(String text) {
-        long characters = 0;
-        for (int i = 0; i < text.length(); i++) {
-            characters = characters << 8 | text.charAt(i);
-        }
-        return characters;
-    }
-
-    private static void write(BeatSlugs board, String text) {
-        board.wipe();
-        for (int i = 0; i < text.length(); i += 8) {
-            String part = text.substring(i, Math.min(text.length(), i + 8));
-            due("put " + part, board.put(packed(part)), i + part.length());
-        }
-    }
-
-    private static void row(String what, BeatSlugs board, int... slugs) {
-        for (int place = 0; place < slugs.length; place++) {
-            due(what + ": at(" + place + ")", board.at(place), slugs[place]);
-        }
-        due(what + ": the end of the row", board.at(slugs.length), NO_SUCH);
-    }
-
+public final class PromiseTests extends Checks {
     private static void newObject() {
         BeatSlugs board = new BeatSlugs();
         int[] counts = {0, 0, 0, 0, 0, 0, NONE, 16, 2, 50, 0, 0};
@@ -710,83 +667,6 @@ public final class PromiseTests {
         due("28 an error between", all.undo(), 0);
     }
 
-    /** Everything that can be seen of a board, but for the pad and the history. */
-    private static int[] view(BeatSlugs board) {
-        int[] view = new int[24 * 12 + 10 + 24 * 2];
-        int seen = 0;
-        for (int slug = 0; slug < 24; slug++) {
-            for (int what = 0; what < 10; what++) {
-                view[seen++] = board.of(slug, what);
-            }
-            view[seen++] = board.at(slug);
-            view[seen++] = board.needs(slug);
-        }
-        for (int what = 0; what < 10; what++) {
-            view[seen++] = board.count(what);
-        }
-        for (int act = 0; act < 24; act++) {
-            view[seen++] = board.ofAct(act, 1);
-            view[seen++] = board.ofAct(act, 2);
-        }
-        return view;
-    }
-
-    private static int change(BeatSlugs board, int kind) {
-        switch (kind) {
-            case 0: return board.set(BeatSlugs.PAGE, 5);
-            case 1: return board.target(0, 5);
-            case 2: return board.slug(0, 5, 1);
-            case 3: return board.drop(0);
-            case 4: return board.turn(0);
-            case 5: return board.need(1, 0);
-            case 6: return board.trim(0, 1);
-            case 7: return board.restoreTail(2);
-            case 8: return board.move(0, 1);
-            case 9: return board.swap(0, 1);
-            case 10: return board.split(0, 1);
-            case 11: return board.fit(0);
-            case 12: return board.restore(0);
-            default: write(board, "x0~1"); return board.carryOut();
-        }
-    }
-
-    /** Each change on a board of its own, behind eight others, so that no older state serves instead. */
-    private static void eachChangeIsUndone() {
-        for (int kind = 0; kind < 14; kind++) {
-            BeatSlugs board = boardOf(20, 30, 20);
-            board.save(0);
-            for (int more = 0; more < 7; more++) {
-                board.slug(3 + more, 1 + more, 0);
-            }
-            board.trim(2, 7);
-            int[] before = view(board);
-            due("28 change " + kind, Math.min(0, change(board, kind)), 0);
-            due("28 something is different by " + kind, java.util.Arrays.equals(view(board), before) ? 0 : 1, 1);
-            due("28 undo of " + kind, board.undo(), 5);
-            due("28 nothing is different then " + kind, java.util.Arrays.equals(view(board), before) ? 1 : 0, 1);
-        }
-    }
-
-    /** Errors of every kind, none of which may leave a trace. */
-    private static void errorsChangeNothing() {
-        BeatSlugs board = boardOf(99, -60, 5);
-        board.need(1, 0);
-        board.need(2, 1);
-        int[] before = view(board);
-        int[] answers = {
-            board.set(0, 61), board.set(3, 5), board.target(6, 5), board.target(0, 0), board.slug(4, 5, 0),
-            board.slug(0, 100, 0), board.slug(0, 5, 2), board.drop(3), board.turn(3), board.need(0, 1), board.need(0, 0),
-            board.trim(0, 50), board.trim(0, 0), board.restoreTail(3), board.move(0, 1), board.move(2, 0),
-            board.swap(0, 2), board.swap(1, 1), board.split(2, 5), board.split(0, 0), board.fit(0), board.fit(2),
-            board.restore(0), board.restore(2), board.save(2), board.carryOut(), board.put(0L)};
-        for (int error = 0; error < answers.length; error++) {
-            due("an error, number " + error, answers[error] < 0 && answers[error] != NONE ? 1 : 0, 1);
-        }
-        due("nothing changed", java.util.Arrays.equals(view(board), before) ? 1 : 0, 1);
-        due("nothing recorded", board.count(11), 5);
-        due("nothing written", board.count(10), 0);
-    }
-
     private static void save() {
         BeatSlugs board = boardOf(10, -20);
         due("29 no slot", board.save(2), BAD_VALUE);
@@ -871,13 +751,8 @@ public final class PromiseTests {
         fault();
         carryOut();
         undo();
-        eachChangeIsUndone();
-        errorsChangeNothing();
         save();
         restore();
-        System.out.println(wrong == 0 ? "promises: all answers are as due" : "promises: " + wrong + " answers are not as due");
-        if (wrong != 0) {
-            System.exit(1);
-        }
+        end("promises");
     }
 }
