@@ -19,7 +19,8 @@ public final class FaceTests {
         "int count(int)", "int places(int)", "int bestSwap(int)", "int ifFitted(int)", "int ifTurned(int)", "int needs(int)",
         "int put(long)", "int wipe()", "int fault()", "int carryOut()", "int undo()", "int save(int)", "int restore(int)"};
     private static final String[] BANNED = {
-        "throw", "throws", "try", "catch", "finally", "synchronized", "assert", "import", "package", "native", "volatile"};
+        "throw", "throws", "try", "catch", "finally", "synchronized", "assert", "package", "native", "volatile"};
+    private static final int MOST_CLASSES = 12, MOST_FIELDS = 20, MOST_PARAMETERS = 7;
     private static int wrong = 0;
 
     private static void due(String what, Object got, Object want) {
@@ -64,13 +65,26 @@ public final class FaceTests {
     private static void classes() {
         due("the class", BeatSlugs.class.getModifiers(), Modifier.PUBLIC | Modifier.FINAL);
         due("the constructors", BeatSlugs.class.getConstructors().length, 1);
+        due("few classes", BeatSlugs.class.getDeclaredClasses().length < MOST_CLASSES, true);
+        parts(BeatSlugs.class);
         for (Class<?> inside : BeatSlugs.class.getDeclaredClasses()) {
             due(inside + " is static", Modifier.isStatic(inside.getModifiers()), true);
-            due(inside + " is hidden", Modifier.isPublic(inside.getModifiers()), false);
-            due(inside + " has few fields", inside.getDeclaredFields().length <= 20, true);
-            for (Field field : inside.getDeclaredFields()) {
-                due(field + " is no static state", Modifier.isStatic(field.getModifiers()), false);
-            }
+            due(inside + " is hidden", Modifier.isPublic(inside.getModifiers()) || Modifier.isProtected(inside.getModifiers()), false);
+            parts(inside);
+        }
+    }
+
+    private static void parts(Class<?> part) {
+        int fields = 0;
+        for (Field field : part.getDeclaredFields()) {
+            boolean shared = Modifier.isStatic(field.getModifiers());
+            due(field + " is no static state", shared && !Modifier.isFinal(field.getModifiers()), false);
+            fields += shared ? 0 : 1;
+        }
+        due(part + " has few fields", fields <= MOST_FIELDS, true);
+        for (Method method : part.getDeclaredMethods()) {
+            due(method + " is no lambda", method.getName().startsWith("lambda$"), false);
+            due(method + " takes few parameters", method.getParameterCount() <= MOST_PARAMETERS, true);
         }
     }
 
@@ -79,9 +93,8 @@ public final class FaceTests {
         for (String word : BANNED) {
             due("the word " + word, Pattern.compile("\\b" + word + "\\b").matcher(source).find(), false);
         }
-        due("lambdas", source.contains("->"), false);
         due("method references", source.contains("::"), false);
-        due("texts", source.contains("\""), false);
+        due("other imports", source.replaceAll("import java\\.util\\.(ArrayList|List|Iterator|Arrays);", "").contains("import "), false);
         due("the file is plain", source.chars().allMatch(sign -> sign < 127), true);
     }
 

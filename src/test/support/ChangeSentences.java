@@ -184,6 +184,13 @@ final class ChangeSentences extends Sentences {
         is("it needs nothing any more", needing.of(1, 5), 0);
         needing.slug(0, 5, 0);
         is("the one that comes for it needs nothing", needing.of(2, 4), 0);
+        for (int slug = 0; slug < 24; slug++) {
+            BeatSlugs last = boardOfAlike(24, 5);
+            last.move(slug, 23);
+            last.need(slug, slug == 9 ? 8 : 9);
+            last.drop(slug == 9 ? 8 : 9);
+            is("the last one, " + slug + ", does not", last.of(slug, 4) + last.needs(slug), 0);
+        }
 
         sentence("Promise 5", "Returns how many are left");
         BeatSlugs full = boardOfAlike(24, 5);

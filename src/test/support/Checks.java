@@ -1,4 +1,6 @@
+import java.util.ArrayList;
 import java.util.Arrays;
+import java.util.List;
 
 /** What the tests share: answers held against those that are due, and boards that are quickly made. */
 abstract class Checks {
@@ -74,24 +76,23 @@ abstract class Checks {
         due(what + ": the end of the row", board.at(slugs.length), NO_SUCH);
     }
 
-    /** Everything that can be seen of a board, but for the pad and the history. */
-    static int[] view(BeatSlugs board) {
-        int[] view = new int[MOST_SLUGS * 12 + 10 + MOST_SLUGS * 8];
-        int seen = 0;
-        for (int slug = 0; slug < MOST_SLUGS; slug++) {
-            for (int what = 0; what < 10; what++) {
-                view[seen++] = board.of(slug, what);
-            }
-            view[seen++] = board.at(slug);
-            view[seen++] = board.needs(slug);
-        }
+    /** All that can be seen of the slugs, the acts and the settings: some 15 calls for each slug. */
+    static List<Integer> view(BeatSlugs board) {
+        List<Integer> view = new ArrayList<>();
         for (int what = 0; what < 10; what++) {
-            view[seen++] = board.count(what);
+            view.add(board.count(what));
         }
-        for (int act = 0; act < MOST_SLUGS; act++) {
-            for (int what = 0; what < 8; what++) {
-                view[seen++] = board.ofAct(act, what);
+        for (int slug = 0; slug < MOST_SLUGS; slug++) {
+            if ((view.get(0) >> slug & 1) != 0) {
+                for (int what = 0; what < 10; what++) {
+                    view.add(board.of(slug, what));
+                }
+                view.add(board.needs(slug));
             }
+        }
+        for (int act = 0; act < view.get(1); act++) {
+            view.add(board.ofAct(act, 1));
+            view.add(board.ofAct(act, 2));
         }
         return view;
     }

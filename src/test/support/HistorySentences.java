@@ -6,6 +6,7 @@ import java.util.function.ToIntFunction;
 /** The promises 28 to 30, which calls are changes, and which calls leave no trace. */
 final class HistorySentences extends Sentences {
     private static final int CHANGES = 14;
+    private static final int LOOKS = 11;
 
     static void run() {
         errorsChangeNothing();
@@ -57,35 +58,27 @@ final class HistorySentences extends Sentences {
         return board;
     }
 
-    /** All that a board can show, the states of its history, its slots and its pad, too; the board is used up then. */
-    private static List<Integer> wholeView(BeatSlugs board) {
-        List<Integer> whole = new ArrayList<>();
-        add(whole, board.count(10), board.fault(), board.count(11));
-        add(whole, view(board));
-        for (int state = 0; state < 7; state++) {
-            add(whole, board.undo());
-            add(whole, view(board));
-        }
-        for (int slot = 0; slot < 2; slot++) {
-            add(whole, board.restore(slot));
-            add(whole, view(board));
-        }
-        add(whole, board.carryOut(), board.count(10), board.count(11));
-        add(whole, view(board));
-        return whole;
-    }
-
-    private static void add(List<Integer> whole, int... numbers) {
-        for (int number : numbers) {
-            whole.add(number);
-        }
-    }
-
-    /** A call on a board, whose twin does without it: then both have to look alike. */
+    /** A call on boards whose twins do without it: whatever is looked at then, both have to look alike. */
     private static void noTrace(Supplier<BeatSlugs> boards, String call, ToIntFunction<BeatSlugs> does, int want) {
-        BeatSlugs board = boards.get();
-        is(call, does.applyAsInt(board), want);
-        yes(call + " leaves no trace", wholeView(board).equals(wholeView(boards.get())));
+        for (int look = 0; look < LOOKS; look++) {
+            BeatSlugs board = boards.get();
+            is(call, does.applyAsInt(board), want);
+            yes(call + " leaves no trace, look " + look, seen(board, look).equals(seen(boards.get(), look)));
+        }
+    }
+
+    /** What there is, or what comes to light by one to seven calls of undo(), by restore(), or by carryOut(). */
+    private static List<Integer> seen(BeatSlugs board, int look) {
+        List<Integer> seen = new ArrayList<>(List.of(board.count(10), board.fault(), board.count(11)));
+        if (look < 8) {
+            for (int undone = 0; undone < look; undone++) {
+                seen.add(board.undo());
+            }
+        } else {
+            seen.add(look < 10 ? board.restore(look - 8) : board.carryOut());
+        }
+        seen.addAll(view(board));
+        return seen;
     }
 
     private static void errorsChangeNothing() {
@@ -174,12 +167,12 @@ final class HistorySentences extends Sentences {
         for (int kind = 0; kind < CHANGES; kind++) {
             sentence("Promise " + (kind < 12 ? 2 + kind : kind == 12 ? 30 : 27), "This is a change");
             BeatSlugs board = kind == 11 ? longBoard() : busyBoard();
-            int[] before = view(board);
+            List<Integer> before = view(board);
             yes("no error", change(board, kind) >= 0);
             is("the history is full", board.count(11), 6);
-            yes("something is different", !java.util.Arrays.equals(view(board), before));
+            yes("something is different", !view(board).equals(before));
             is("undo", board.undo(), 5);
-            yes("nothing is different any more", java.util.Arrays.equals(view(board), before));
+            yes("nothing is different any more", view(board).equals(before));
         }
     }
 
@@ -229,13 +222,13 @@ final class HistorySentences extends Sentences {
     private static void undo() {
         sentence("Promise 28", "Undoes the latest change: everything except the pad, the slots and the history is as it was before it");
         BeatSlugs board = boardOf(10, 20);
-        int[] before = view(board);
+        List<Integer> before = view(board);
         board.save(0);
         board.drop(0);
         board.save(1);
         write(board, "s5");
         is("undo", board.undo(), 2);
-        yes("as it was", java.util.Arrays.equals(view(board), before));
+        yes("as it was", view(board).equals(before));
         is("the pad is not", board.count(10), 2);
         is("the slot 1 is not", board.restore(1), 1);
         is("the slot 0 is not", board.restore(0), 2);
@@ -252,34 +245,25 @@ final class HistorySentences extends Sentences {
 
     private static void recorded() {
         sentence("Promise 28", "each method that is a change, and returns no error, records the state before it (also if nothing is different then)");
-        BeatSlugs board = boardOf(30, -30);
-        board.save(0);
-        int[] before = view(board);
-        ToIntFunction<BeatSlugs>[] calls = idleChanges();
-        for (int call = 0; call < calls.length; call++) {
-            int kept = board.count(11);
-            yes("idle change " + call, calls[call].applyAsInt(board) >= 0);
-            is("recorded " + call, board.count(11), kept + 1);
-            yes("idle change " + call + ", nothing is different", java.util.Arrays.equals(view(board), before));
-            is("undone " + call, board.undo(), kept);
-            yes("idle change " + call + ", nothing is different", java.util.Arrays.equals(view(board), before));
-        }
+        idle("set", board -> board.set(BeatSlugs.PAGE, 16));
+        idle("target", board -> board.target(0, 60));
+        idle("restoreTail", board -> board.restoreTail(0));
+        idle("move", board -> board.move(0, 0));
+        idle("fit", board -> board.fit(0));
+        idle("restore", board -> board.restore(0));
+        idle("carryOut, none is carried out", board -> board.carryOut());
     }
 
-    @SuppressWarnings({"unchecked", "rawtypes"})
-    private static ToIntFunction<BeatSlugs>[] idleChanges() {
-        ToIntFunction[] calls = {
-            (ToIntFunction<BeatSlugs>) board -> board.set(BeatSlugs.PAGE, 16),
-            (ToIntFunction<BeatSlugs>) board -> board.target(0, 60),
-            (ToIntFunction<BeatSlugs>) board -> board.restoreTail(0),
-            (ToIntFunction<BeatSlugs>) board -> board.move(0, 0),
-            (ToIntFunction<BeatSlugs>) board -> board.fit(0),
-            (ToIntFunction<BeatSlugs>) board -> board.restore(0),
-            (ToIntFunction<BeatSlugs>) board -> {
-                write(board, "n0>1");
-                return board.carryOut();
-            }};
-        return calls;
+    private static void idle(String call, ToIntFunction<BeatSlugs> does) {
+        BeatSlugs board = boardOf(30, -30);
+        board.save(0);
+        write(board, "n0>1");
+        List<Integer> before = view(board);
+        yes(call, does.applyAsInt(board) >= 0);
+        is(call + " is recorded", board.count(11), 3);
+        yes(call + ": nothing is different", view(board).equals(before));
+        is(call + " is undone", board.undo(), 2);
+        yes(call + ": nothing is different after undo", view(board).equals(before));
     }
 
     private static void oldestIsDropped() {
@@ -342,7 +326,7 @@ final class HistorySentences extends Sentences {
     private static void save() {
         sentence("Promise 29", "Saves everything except the pad, the history and the slots in a slot, and overwrites what was saved there");
         BeatSlugs board = busyBoard();
-        int[] saved = view(board);
+        List<Integer> saved = view(board);
         board.save(0);
         for (int slug = 0; slug < 6; slug++) {
             board.drop(slug);
@@ -354,7 +338,7 @@ final class HistorySentences extends Sentences {
         board.target(5, 2);
         board.wipe();
         is("restored", board.restore(0), 6);
-        yes("everything", java.util.Arrays.equals(view(board), saved));
+        yes("everything", view(board).equals(saved));
         is("not the pad", board.count(10), 0);
         is("not the history", board.count(11), 6);
         is("undo leads to the state before", board.undo() * 10 + board.count(0), 50);
@@ -384,19 +368,24 @@ final class HistorySentences extends Sentences {
 
     private static void restore() {
         sentence("Promise 30", "Restores what was saved last in a slot, which keeps it");
-        BeatSlugs board = boardOf(10, -20, 30);
-        int[] saved = view(board);
-        board.save(1);
         for (int kind = 0; kind < 12; kind++) {
-            board.restore(1);
-            yes("as saved, change " + kind, java.util.Arrays.equals(view(board), saved));
-            if (kind == 5) {
-                board.need(1, 0);
-                board.trim(2, 1);
-            } else {
-                change(board, kind);
+            BeatSlugs changed = boardOf(30, 30, -40, 50);
+            changed.trim(0, 2);
+            List<Integer> saved = view(changed);
+            changed.save(1);
+            for (int turn = 0; turn < 2; turn++) {
+                yes("change " + kind, change(changed, kind) >= 0);
+                is("restore after the change " + kind, changed.restore(1), 4);
+                yes("as saved after the change " + kind, view(changed).equals(saved));
             }
         }
+        BeatSlugs board = boardOf(10, -20, 30);
+        board.save(1);
+        board.slug(0, 5, 0);
+        board.slug(0, 5, 0);
+        board.slug(0, 5, 0);
+        board.restore(1);
+        List<Integer> saved = view(board);
         board.save(0);
         board.drop(0);
         board.save(0);
@@ -405,7 +394,7 @@ final class HistorySentences extends Sentences {
         is("undo of restore", board.undo(), 5);
         is("undo of restore", board.count(0), 6);
         is("it is kept after undo", board.restore(1), 3);
-        yes("as saved", java.util.Arrays.equals(view(board), saved));
+        yes("as saved", view(board).equals(saved));
     }
 
     private static void restoreReturns() {

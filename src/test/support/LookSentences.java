@@ -210,6 +210,12 @@ final class LookSentences extends Sentences {
         is("the first in the row", board.count(6), 3);
         board.trim(3, 1);
         is("the next one", board.count(6), 1);
+        board.slug(4, 99, 0);
+        is("the one at the end", board.count(6), 4);
+        board.drop(4);
+        is("it went from the end", board.count(6), 1);
+        board.drop(1);
+        is("another one went", board.count(6), 2);
     }
 
     private static void places() {

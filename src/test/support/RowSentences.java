@@ -207,6 +207,13 @@ final class RowSentences extends Sentences {
         is("what needs the new one", board.of(23, 5), (1 << 23) - 1 - 3);
         is("what needs the first one", board.of(1, 5), (1 << 24) - 1 - 3);
         is("what 0 needs", board.of(0, 4), 0);
+        for (int slug = 0; slug < 22; slug++) {
+            BeatSlugs last = boardOfAlike(23, 5);
+            last.move(slug, 22);
+            last.need(slug, 22);
+            last.split(22, 1);
+            is("what the last one, " + slug + ", needs", last.of(slug, 4), 3 << 22);
+        }
     }
 
     private static void fitFromTheLastOne() {

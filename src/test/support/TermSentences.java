@@ -198,8 +198,8 @@ final class TermSentences extends Sentences {
     private static void slack() {
         sentence("Settings", "SLACK (0 to 20; 2): by how much an act may be off its target");
         inRange(BeatSlugs.SLACK, 0, 20, 2);
-        BeatSlugs board = boardOf(-60);
         for (int slack = 0; slack <= 20; slack++) {
+            BeatSlugs board = boardOf(-60);
             board.set(BeatSlugs.SLACK, slack);
             for (int off = -22; off <= 22; off++) {
                 board.target(0, 60 - off);

@@ -344,8 +344,8 @@ final class TextSentences extends Sentences {
             for (int code = 0; code <= 255; code++) {
                 long others = packed("AAAAAAAA") & ~(255L << 8 * at);
                 boolean good = code >= 33 && code <= 126 || code == 0 && at == 7;
-                board.wipe();
-                is("the code " + code + " at " + at, board.put(others | (long) code << 8 * at), !good ? BAD_VALUE : code == 0 ? 7 : 8);
+                int due = !good ? BAD_VALUE : code == 0 ? 7 : 8;
+                is("the code " + code + " at " + at, new BeatSlugs().put(others | (long) code << 8 * at), due);
             }
         }
         all(BAD_VALUE, board.put(0x4100L), board.put(0x410041L), board.put(-1L), board.put(Long.MIN_VALUE), board.put(Long.MAX_VALUE));
@@ -353,9 +353,11 @@ final class TextSentences extends Sentences {
         sentence("Promise 24", "TOO_MANY if the pad would be longer than 80");
         for (int length = 72; length <= 80; length++) {
             for (int more = 1; more <= 8; more++) {
-                write(board, "a".repeat(length));
-                is(length + " and " + more, board.put(packed("bbbbbbbb".substring(0, more))), length + more > 80 ? TOO_MANY : length + more);
-                is(length + " and " + more + " then", board.count(10), length + more > 80 ? length : length + more);
+                boolean tooLong = length + more > 80;
+                BeatSlugs full = new BeatSlugs();
+                write(full, "a".repeat(length));
+                is(length + " and " + more, full.put(packed("b".repeat(more))), tooLong ? TOO_MANY : length + more);
+                is(length + " and " + more + " then", full.count(10), tooLong ? length : length + more);
             }
         }
     }
