@@ -1,7 +1,5 @@
 /** The promises 1 to 13: a new object, and the changes. */
 final class ChangeSentences extends Sentences {
-    private static final int[] NO_SLUGS = {-1, 3, 23, 24, 31, 32, 33, 34, 64, -32, -31, FAR, BELOW};
-
     static void run() {
         newObject();
         set();

@@ -1,6 +1,5 @@
 /** The promises 14 to 23: what there is, and what if. */
 final class LookSentences extends Sentences {
-    private static final int[] NO_SLUGS = {-1, 3, 23, 24, 31, 32, 33, 34, 64, -32, -31, FAR, BELOW};
     private static final int FULL_SET = (1 << MOST_SLUGS) - 1;
 
     static void run() {

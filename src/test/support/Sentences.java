@@ -10,6 +10,8 @@ import java.util.TreeMap;
 
 /** Tests of which each stands for words of the document, and a look at whether all words of it have a test. */
 abstract class Sentences extends Checks {
+    /** Numbers that are no slugs where there are three; those around 32 and 64 a shift would take for slugs. */
+    static final int[] NO_SLUGS = {-1, 3, 23, 24, 31, 32, 33, 34, 64, -32, -31, FAR, BELOW};
     private static final Set<String> WITHOUT_TESTS = Set.of("The public face", "Not promised");
     private static final Map<String, List<String>> quotes = new TreeMap<>();
     private static String section = "";

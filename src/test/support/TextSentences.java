@@ -52,7 +52,8 @@ final class TextSentences extends Sentences {
         is("80 characters", faultOf(whole), NONE);
         is("80 characters, the last one is a \";\"", faultOf("f1;".repeat(25) + "s10!;"), 80);
         is("80 characters, the last one is a fault", faultOf("f1;".repeat(26) + "f!"), 79);
-        is("80 characters, the last order is cut", faultOf("f1;".repeat(26) + "s1".substring(0, 1) + "7"), NONE);
+        is("80 characters, the last order is a long one", faultOf("f1;".repeat(25) + "n1>22"), NONE);
+        is("80 characters, the last order is too short", faultOf("f1;".repeat(25) + "s10;n"), 80);
         is("80 characters, 24 slugs", carried("s1;".repeat(24) + "f0;f0;s9"), 24);
         BeatSlugs board = new BeatSlugs();
         write(board, whole);
@@ -438,7 +439,7 @@ final class TextSentences extends Sentences {
         sentence("Promise 27", "BAD_TEXT if the pad has a fault (then it stays)");
         BeatSlugs board = new BeatSlugs();
         is("empty", board.carryOut(), BAD_TEXT);
-        String[] texts = {"s5;", "s5;q", "s5;s", "s5 s6".substring(0, 2) + "s6", "q;s5", "s100"};
+        String[] texts = {"s5;", "s5;q", "s5;s", "s5s6", "q;s5", "s100"};
         for (String text : texts) {
             write(board, text);
             int fault = board.fault();
